@@ -261,7 +261,9 @@ public final class SharedPacketBuffer {
             for (int arrival = 0; arrival < load; arrival++) {
                 s = (s * 1103515245L + 12345L) % 2147483648L;
                 int d = (int) (s / 65536L);
-                lost += lossOfArrivals(d % ports, d / 8 % PRIORITIES, d / 32 % MOST_SIZE + 1, 1);
+                Port p = device.portAt(d % ports);
+                Queue q = device.queueAt(d % ports, d / 8 % PRIORITIES);
+                lost += lossOfArrivals(p, q, d / 32 % MOST_SIZE + 1, 1);
             }
             device.passTick();
         }
@@ -549,7 +551,18 @@ public final class SharedPacketBuffer {
         text.rewind();
         for (int order = 0; order < TEXT_ROOM && text.hasMore(); order++) {
             text.readOrder(device.portCount);
-            lost += carryOutOrder();
+            Port p = device.portAt(text.port);
+            if (text.kind == 'a') {
+                lost += lossOfArrivals(p, device.queueAt(text.port, text.priority), text.number, text.count);
+            } else if (text.kind == 't') {
+                for (int i = 0; i < text.number; i++) {
+                    device.passTick();
+                }
+            } else if (text.kind == 'f' && p != null) {
+                device.discardAll(p);
+            } else if (text.kind == 'g' && p != null) {
+                device.giveGrant(p, text.port, text.number);
+            }
         }
         return lost;
     }
@@ -629,36 +642,8 @@ public final class SharedPacketBuffer {
         return h;
     }
 
-    /** Carries out the order that was read last and tells how many packets it lost. */
-    private int carryOutOrder() {
-        Port p = device.portAt(text.port);
-        switch (text.kind) {
-            case 'a':
-                return lossOfArrivals(text.port, text.priority, text.number, text.count);
-            case 't':
-                for (int i = 0; i < text.number; i++) {
-                    device.passTick();
-                }
-                return 0;
-            case 'f':
-                if (p != null) {
-                    device.discardAll(p);
-                }
-                return 0;
-            case 'g':
-                if (p != null) {
-                    device.giveGrant(p, text.port, text.number);
-                }
-                return 0;
-            default:
-                return 0;
-        }
-    }
-
     /** Lets equal packets arrive and tells how many of them are lost. */
-    private int lossOfArrivals(int port, int priority, int size, int count) {
-        Port p = device.portAt(port);
-        Queue q = device.queueAt(port, priority);
+    private int lossOfArrivals(Port p, Queue q, int size, int count) {
         if (p == null || q == null) {
             return 0;
         }
@@ -754,17 +739,18 @@ public final class SharedPacketBuffer {
             return alpha * freeShared / 8;
         }
 
-        /** By how much the queue would exceed its threshold with more shared cells. */
-        int excessWith(int more, int freeShared) {
-            return shared + more - limitWith(freeShared);
-        }
-
         /** The code with which stage 2 refuses a packet that needs so many shared cells. */
         int poolRefusal(int rest, int freeShared) {
             if (rest > freeShared) {
                 return POOL_EMPTY;
             }
-            return excessWith(rest, freeShared) <= tank ? NOT_REFUSED : OVER_THRESHOLD;
+            return shared + rest - limitWith(freeShared) <= tank ? NOT_REFUSED : OVER_THRESHOLD;
+        }
+
+        /** Counts the shared cells of a packet; the tank pays for what exceeds the threshold. */
+        void addShared(int more, int freeShared) {
+            tank -= Math.max(0, shared + more - limitWith(freeShared));
+            shared += more;
         }
 
         void pause() {
@@ -1388,8 +1374,7 @@ public final class SharedPacketBuffer {
                 q.inHeadroom += rest;
                 q.pause();
             } else if (rest > 0) {
-                q.tank -= Math.max(0, q.excessWith(rest, sharedLeft()));
-                q.shared += rest;
+                q.addShared(rest, sharedLeft());
             }
             q.guaranteed += fromGuarantee;
         }

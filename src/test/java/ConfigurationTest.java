@@ -51,6 +51,13 @@ public final class ConfigurationTest {
         new Script(A, "promise 2").play(busy).play("reset(20, 2) = 64; sharedPool() = 20; freeShared() = 20;"
             + "runLength(0) = 20; freeRuns() = 1; fragments(2) = BAD_INDEX; credit(2) = BAD_INDEX; grant(0, 1) = NONE;"
             + "grant(1, 1) = NONE; withdraw(0) = 1; withdraw(1) = 1").play(DEFAULTS).play(STRICT);
+        new Script(A, "promise 2").play(busy).play("reset(64, 4) = 64").play(STRICT);
+        String unevenly = "setLossless(0, 0, true) = 0; setLossless(0, 1, true) = 0; setHeadroom(0, 20) = 0; setAlpha(0, 1, 0) = 8;"
+            + "setScheduler(0, true, 1) = 4; arrive(0, 1, 12) = 0; arrive(0, 0, 9) = 1; ticks(1) = 0; headroomCells(0, 1) = 12;"
+            + "deficit(0, 1) = 8; deficit(0, 0) = 12; setBurst(0, 1, 9, 8) = 0;";
+        new Script(A, "promise 2").play(unevenly).play("reset(64, 4) = 64; deficit(0, 0) = 0; deficit(0, 1) = 0; headroomCells(0, 1) = 0;"
+            + "setLossless(0, 0, false) = 0; setLossless(0, 1, false) = 0; ticks(3) = 0; burstTank(0, 1) = 0; isPaused(0, 1) = 0")
+            .play("setHeadroom(0, 0) = 0; arrive(0, 1, 3) = 0; packetAt(0, 1, 0) = 0; queueLength(0, 1) = 1; credit(0) = 0");
         Script again = new Script(A, "promise 2");
         again.play("reset(33, 5) = 64");
         new Script(A, "promise 2").play(busy).play("reset(33, 5) = 64").sameAs(again);
@@ -128,6 +135,9 @@ public final class ConfigurationTest {
             + "setLossless(0, 1, false) = 1; isPaused(0, 1) = 0; pauses(0, 1) = 1; setLossless(0, 1, false) = 0;"
             + "arrive(0, 1, 4) = LOST; lossCause(1) = NOT_LOSSLESS; setLossless(0, 1, true) = 0; arrive(0, 1, 4) = 1;"
             + "pauses(0, 1) = 2; headroomCells(0, 1) = 4");
+        new Script(A, "promise 7, one headroom cell").play("setHeadroom(2, 1) = 0; setAlpha(2, 0, 0) = 8; setLossless(2, 0, true) = 0;"
+            + "arrive(2, 0, 1) = 0; headroomCells(2, 0) = 1").playUnchanged("setLossless(2, 0, false) = IN_USE; setHeadroom(2, 0) = IN_USE")
+            .play("flush(2) = 1; setLossless(2, 0, false) = 1; setHeadroom(2, 0) = 1");
     }
 
     private static void setScheduler() {
@@ -183,6 +193,12 @@ public final class ConfigurationTest {
             + "grant(0, 16) = NO_ROOM").play("grant(1, 7) = NONE; grant(1, 2) = NONE; grant(2, 7) = 0; freeShared() = 0;"
             + "sharedCells(0, 0) = 8; grant(0, 3) = NO_ROOM; grantOf(1) = 2; setReserve(3, 14) = 15; grant(0, 3) = 1;"
             + "freeShared() = 0");
+        new Script(A, "promise 11, room behind a withdrawal").play("reset(32, 4) = 64; setReserve(0, 4) = 0; grant(0, 10) = NONE;"
+            + "grant(1, 1) = NONE; arrive(0, 0, 6) = 0; setReserve(3, 16) = 0; freeShared() = 1; grant(2, 10) = NO_ROOM; grant(2, 9) = 0;"
+            + "freeShared() = 0; guaranteedCells(0, 0) = 4; sharedCells(0, 0) = 2; grantOf(0) = 0");
+        new Script(A, "promise 11, the reserve alone covers the cells").play("reset(32, 4) = 64; setReserve(0, 4) = 0; grant(0, 10) = NONE;"
+            + "grant(1, 1) = NONE; arrive(0, 0, 3) = 0; setReserve(3, 17) = 0; freeShared() = 0; grant(2, 11) = NO_ROOM; grant(2, 10) = 0;"
+            + "freeShared() = 0; guaranteedCells(0, 0) = 3");
         new Script(A, "promise 11, errors").play("grant(1, 3) = NONE").playUnchanged("grant(-1, 1) = BAD_INDEX; grant(4, 0) = BAD_INDEX;"
             + "grant(0, 0) = BAD_VALUE; grant(0, 33) = BAD_VALUE; grant(MAX, 1) = BAD_INDEX; grant(MIN, 33) = BAD_INDEX;"
             + "grant(1, MIN) = BAD_VALUE; grant(1, MAX) = BAD_VALUE");

@@ -71,6 +71,19 @@ public final class PacketsTest {
         new Script(A, "promise 13, a victim's guaranteed cells").play("reset(16, 1) = 64; setReserve(0, 10) = 0; setPushOut(true) = 0;"
             + "setAlpha(0, 0, 0) = 8; arrive(0, 2, 4) = 0; arrive(0, 2, 6) = 1; arrive(0, 0, 6) = 2; guaranteedCells(0, 0) = 6;"
             + "sharedCells(0, 0) = 0; losses(0, 8) = 1; guaranteedCells(0, 2) = 4");
+        String mixed = "reset(24, 1) = 64; setReserve(0, 4) = 0; setHeadroom(0, 6) = 0; setLossless(0, 2, true) = 0; setAlpha(0, 2, 64) = 8;"
+            + "setPushOut(true) = 0; arrive(0, 2, 4) = 0; arrive(0, 2, 12) = 1; arrive(0, 2, 5) = 2; headroomCells(0, 2) = 5;"
+            + "arrive(0, 2, 1) = 3; sharedCells(0, 2) = 13; freeShared() = 1; setAlpha(0, 0, 64) = 8;";
+        new Script(A, "promise 13, victims give back headroom first").play(mixed).play("arrive(0, 0, 2) = 4; losses(0, 8) = 2; lostCells(0) = 6;"
+            + "headroomCells(0, 2) = 0; sharedCells(0, 2) = 12; guaranteedCells(0, 2) = 4; freeShared() = 0");
+        new Script(A, "promise 13, then shared cells").play(mixed).play("arrive(0, 0, 3) = 4; losses(0, 8) = 3; sharedCells(0, 2) = 0;"
+            + "guaranteedCells(0, 2) = 4; freeShared() = 11");
+        new Script(A, "promise 13, then guaranteed cells").play(mixed).play("setAlpha(0, 0, 0) = 64; stageFor(0, 0, 5) = LOST;"
+            + "arrive(0, 0, 4) = 4; losses(0, 8) = 4; guaranteedCells(0, 0) = 4; sharedCells(0, 0) = 0; freeShared() = 14");
+        new Script(A, "promise 13, the queue goes on behind removed victims").play("reset(16, 1) = 64; setPushOut(true) = 0; setAlpha(0, 2, 64) = 8;"
+            + "setAlpha(0, 0, 64) = 8; arrive(0, 2, 4) = 0; arrive(0, 2, 4) = 1; arrive(0, 2, 4) = 2; arrive(0, 0, 9) = 3; queueLength(0, 2) = 1;"
+            + "packetAt(0, 2, 0) = 0; setScheduler(0, false, 16) = 4; ticks(1) = 2; arrive(0, 2, 3) = 4; packetAt(0, 2, 0) = 4; arrive(0, 2, 2) = 5;"
+            + "packetAt(0, 2, 1) = 5; queueLength(0, 2) = 2; ticks(1) = 2; queueLength(0, 2) = 0; freeRuns() = 1");
         new Script(A, "promise 13, the tank counts after a push-out").play("reset(16, 1) = 64; setPushOut(true) = 0; setAlpha(0, 2, 64) = 8;"
             + "setAlpha(0, 0, 2) = 8; setBurst(0, 0, 3, 0) = 0; arrive(0, 2, 8) = 0; arrive(0, 2, 8) = 1; arrive(0, 0, 4) = 2;"
             + "burstTank(0, 0) = 1; losses(0, 8) = 1; sharedCells(0, 0) = 4; freeShared() = 4");

@@ -27,7 +27,8 @@ public final class PredictionsTest {
             .playUnchanged("largestAdmissible(0, 0) = 6").play("setAlpha(0, 0, 0) = 3; largestAdmissible(0, 0) = 0; setReserve(0, 2) = 0;"
             + "largestAdmissible(0, 0) = 2; setHeadroom(0, 5) = 0; setLossless(0, 0, true) = 0; largestAdmissible(0, 0) = 7;"
             + "setBurst(0, 0, 6, 0) = 0; largestAdmissible(0, 0) = 8; setBurst(0, 0, 9, 0) = 6; largestAdmissible(0, 0) = 11;"
-            + "largestAdmissible(0, 1) = 11; largestAdmissible(0, 3) = BAD_INDEX");
+            + "largestAdmissible(0, 1) = 11; largestAdmissible(0, 3) = BAD_INDEX; setReserve(0, 1) = 2; setHeadroom(0, 0) = 5;"
+            + "setBurst(0, 0, 0, 0) = 9; largestAdmissible(0, 0) = 1");
         new Script(A, "promise 45, with push-out").play("reset(16, 1) = 64; setAlpha(0, 1, 64) = 8; setAlpha(0, 0, 64) = 8; arrive(0, 0, 5) = 0;"
             + "arrive(0, 1, 9) = 1; largestAdmissible(0, 0) = 2; setPushOut(true) = 0").playUnchanged("largestAdmissible(0, 0) = 11;"
             + "largestAdmissible(0, 1) = 2");

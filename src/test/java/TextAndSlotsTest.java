@@ -11,6 +11,8 @@ public final class TextAndSlotsTest {
         faultsOfPorts();
         run();
         slots();
+        slotsKeepFragmentsAndLosses();
+        slotsKeepTheTurn();
         checksum();
         A.end("TextAndSlotsTest");
     }
@@ -111,9 +113,33 @@ public final class TextAndSlotsTest {
             + "restore(MAX) = BAD_INDEX; restore(0) = NONE; restore(1) = NONE; save(1) = 1; restore(0) = NONE; restore(1) = 1");
     }
 
+    private static void slotsKeepFragmentsAndLosses() {
+        new Script(A, "promises 53 and 54, fragments, losses and refusals").play("reset(16, 3) = 64; setAlpha(0, 0, 64) = 8;"
+            + "setAlpha(1, 0, 64) = 8; setAlpha(2, 0, 64) = 8; arrive(0, 0, 4) = 0; arrive(1, 0, 3) = 1; arrive(0, 0, 3) = 2;"
+            + "arrive(2, 0, 3) = 3; flush(0) = 2; arrive(1, 0, 8) = 4; setPushOut(true) = 0; arrive(1, 2, 1) = 5; arrive(1, 0, 2) = 6;"
+            + "arrive(2, 2, 1) = LOST; save(0) = 0")
+            .play("flush(1) = 3; flush(2) = 1; setAlpha(2, 0, 0) = 64; setPushOut(false) = 1; arrive(2, 0, 3) = LOST;"
+            + "lossCause(0) = PUSH_OUT_OFF; lossCause(2) = OVER_THRESHOLD; arrive(0, 0, 6) = 7; arrive(0, 0, 5) = 8; arrive(0, 1, 1) = 9")
+            .play("restore(0) = 0; lossCause(0) = NO_VICTIM; lossCause(2) = POOL_EMPTY; losses(0, 9) = 2; losses(1, 9) = 0;"
+            + "losses(1, 8) = 1; losses(2, 9) = 0; losses(2, 2) = 1; losses(2, 3) = 0; fragments(4) = 3; fragmentStart(4, 0) = 0;"
+            + "fragmentLength(4, 0) = 4; fragmentStart(4, 1) = 7; fragmentLength(4, 1) = 3; fragmentStart(4, 2) = 13;"
+            + "fragmentLength(4, 2) = 1; fragments(6) = 1; fragmentStart(6, 0) = 14; fragmentLength(6, 0) = 2; freeRuns() = 0;"
+            + "flush(2) = 1; arrive(1, 0, 1) = 7; packetAt(1, 0, 3) = 7; queueLength(1, 0) = 4; fragmentStart(7, 0) = 10");
+    }
+
+    private static void slotsKeepTheTurn() {
+        new Script(A, "promises 53 and 54, turn, flag and refill").play("setScheduler(0, true, 1) = 4; arrive(0, 0, 2) = 0;"
+            + "arrive(0, 1, 4) = 1; arrive(0, 1, 4) = 2; ticks(3) = 1; deficit(0, 1) = 4; credit(0) = 1; setBurst(0, 0, 9, 2) = 0;"
+            + "setAlpha(0, 0, 0) = 8; setReserve(0, 1) = 0; arrive(0, 0, 5) = 3; burstTank(0, 0) = 5; save(1) = 3; flush(0) = 3;"
+            + "setBurst(0, 0, 0, 0) = 5; restore(1) = 3; ticks(1) = 0; burstTank(0, 0) = 7; deficit(0, 1) = 4; deficit(0, 0) = 0;"
+            + "ticks(2) = 1; queueLength(0, 1) = 1; deficit(0, 1) = 4; deficit(0, 0) = 4; credit(0) = 0; burstTank(0, 0) = 9");
+    }
+
     private static void checksum() {
         new Script(A, "promise 55, empty").play("reset(16, 1) = 64").checksum(0, 0, 16, 16, 0, 0, 0, 0, 0,
             0, 0, 0, 0, 0, 0, 0, 0, 0, 0, 0, 0, 0, 0, 0, 0, 0, 0, 0, 0, 0, 0, 16);
+        new Script(A, "promise 55, a guarantee that is free").play("reset(16, 1) = 64; setReserve(0, 5) = 0; grant(0, 2) = NONE; arrive(0, 0, 1) = 0")
+            .checksum(0, 1, 9, 9, 6, 2, 0, 0, 0, 1, 0, 0, 0, 0, 0, 1, 0, 0, 0, 0, 0, 0, 0, 0, 0, 0, 0, 0, 0, 0, 0, 0, 1, 15);
         new Script(A, "promise 55").play("reset(16, 2) = 64; setReserve(0, 2) = 0; grant(1, 3) = NONE; setHeadroom(1, 2) = 0; setBurst(0, 1, 5, 0) = 0;"
             + "setLossless(1, 2, true) = 0; setAlpha(1, 2, 0) = 8; arrive(0, 1, 4) = 0; arrive(1, 2, 4) = 1; setScheduler(0, true, 1) = 4;"
             + "setScheduler(1, false, 3) = 4; ticks(1) = 0; arrive(1, 0, 12) = LOST")
