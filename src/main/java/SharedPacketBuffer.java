@@ -1096,14 +1096,14 @@ public final class SharedPacketBuffer {
 
         void release(int packet) {
             int part = packet;
-            for (int i = 0; i < MOST_SIZE && part >= 0 && part < MOST_CELLS; i++) {
+            for (int i = 0; i < MOST_SIZE && isCell(part); i++) {
                 int end = Math.min(MOST_CELLS, part + partLength[part]);
                 for (int cell = part; cell < end; cell++) {
                     taken[cell] = false;
                 }
                 part = nextPart[part];
             }
-            if (packet >= 0 && packet < MOST_CELLS) {
+            if (isCell(packet)) {
                 numbers[packet] = NO_PACKET;
             }
         }
