@@ -98,7 +98,7 @@ public final class TextAndSlotsTest {
         Script plain = new Script(A, "promises 53 and 54, without a slot");
         plain.play(busy);
         Script saved = new Script(A, "promises 53 and 54");
-        saved.play(busy).playUnchanged("save(0) = 1").play(spoil).play("restore(0) = 1").sameAs(plain);
+        saved.play(busy).play("save(0) = 1").play(spoil).play("restore(0) = 1").sameAs(plain);
         plain.play("arrive(0, 1, 1) = 3; grant(2, 1) = 1; ticks(4) = 2");
         saved.play("arrive(0, 1, 1) = 3; grant(2, 1) = 1; ticks(4) = 2").sameAs(plain);
         saved.play("restore(0) = 1; queueLength(0, 1) = 0; queueLength(0, 0) = 1; queueLength(0, 2) = 1; restore(0) = 1");
@@ -110,7 +110,7 @@ public final class TextAndSlotsTest {
             + "clearText() = 2; save(1) = 0").write("t2").play("restore(1) = 0; clearText() = 2");
         new Script(A, "promises 53 and 54, errors").play("arrive(0, 0, 7) = 0; ticks(1) = 0").playUnchanged("save(-1) = BAD_INDEX; save(2) = BAD_INDEX;"
             + "save(MIN) = BAD_INDEX; save(MAX) = BAD_INDEX; restore(-1) = BAD_INDEX; restore(2) = BAD_INDEX; restore(MIN) = BAD_INDEX;"
-            + "restore(MAX) = BAD_INDEX; restore(0) = NONE; restore(1) = NONE; save(1) = 1; restore(0) = NONE; restore(1) = 1");
+            + "restore(MAX) = BAD_INDEX; restore(0) = NONE; restore(1) = NONE").play("save(1) = 1").playUnchanged("restore(0) = NONE; restore(1) = 1");
     }
 
     private static void slotsKeepFragmentsAndLosses() {
