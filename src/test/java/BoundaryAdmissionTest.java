@@ -350,6 +350,10 @@ public final class BoundaryAdmissionTest {
             + "freeGuarantee(0) = 2; queueLength(0, 2) = 0");
         at("no packet is removed: one cell too many for all victims").play(guaranteed).play("arrive(0, 0, 9) = LOST; lossCause(0) = NO_VICTIM;"
             + "lossCause(2) = OVER_THRESHOLD; queueLength(0, 2) = 2; losses(0, 8) = 0; losses(0, 3) = 1; freeGuarantee(0) = 0");
+        String both = "reset(24, 1) = 64; setPushOut(true) = 0; setReserve(0, 4) = 0; setAlpha(0, 0, 0) = 8; arrive(0, 2, 4) = 0; arrive(0, 2, 5) = 1; sharedCells(0, 2) = 5;";
+        at("for the lowest such k: the shared cells of victims do not help, their guaranteed ones do").play(both).play("stageFor(0, 0, 5) = LOST; arrive(0, 0, 4) = 2; losses(0, 8) = 2; guaranteedCells(0, 0) = 4;"
+            + "sharedCells(0, 0) = 0; freeShared() = 20");
+        at("for the lowest such k: the least packet needs both victims, too").play(both).play("arrive(0, 0, 1) = 2; losses(0, 8) = 2; freeGuarantee(0) = 3");
         // The last victims give back headroom alone, which neither stage 1 nor stage 2 takes.
         String headroom = "reset(24, 1) = 64; setPushOut(true) = 0; setHeadroom(0, 8) = 0; setLossless(0, 1, true) = 0; setAlpha(0, 0, 64) = 8; setAlpha(0, 1, 64) = 8;"
             + "arrive(0, 1, 9) = 0; arrive(0, 1, 7) = 1; arrive(0, 1, 6) = 2; headroomCells(0, 1) = 6; freeShared() = 0;";
@@ -407,6 +411,8 @@ public final class BoundaryAdmissionTest {
             + "ticks(1) = 1; headroomCells(0, 1) = 0; sharedCells(0, 1) = 0; guaranteedCells(0, 1) = 3; freeGuarantee(0) = 1; freeShared() = 54");
         at("the counts of the queue decrease by n altogether: to nothing").play(pools).play("arrive(0, 1, 12) = 0; setAlpha(0, 1, 0) = 8; arrive(0, 1, 6) = 1;"
             + "ticks(2) = 2; headroomCells(0, 1) = 0; sharedCells(0, 1) = 0; guaranteedCells(0, 1) = 0; freeGuarantee(0) = 4; freeShared() = 54; freeRuns() = 1");
+        at("Its cells in the memory become free: those of all its fragments").play(HOLES).play("arrive(2, 0, 11) = 8; fragments(8) = 3; freeRuns() = 2; flush(2) = 1; freeRuns() = 4; runLength(0) = 3; runLength(1) = 5;"
+            + "runLength(2) = 3; runLength(3) = 5");
         at("the counts of the queue decrease: of no other queue").play(pools).play("setLossless(0, 2, true) = 0; setAlpha(0, 2, 0) = 8; arrive(0, 1, 4) = 0;"
             + "arrive(0, 2, 3) = 1; headroomCells(0, 2) = 3; setScheduler(0, false, 4) = 12; ticks(1) = 1; headroomCells(0, 2) = 3; guaranteedCells(0, 1) = 0");
     }
@@ -460,6 +466,7 @@ public final class BoundaryAdmissionTest {
         for (int i = 0; i < 12; i++) {
             single.play("fragmentStart(24, " + i + ") = " + (2 * i + 1) + "; fragmentLength(24, " + i + ") = 1");
         }
+        single.play("flush(1) = 1; freeRuns() = 12; runStart(11) = 23; flush(0) = 12; freeRuns() = 1");
     }
 
     private static void placementOfVictims() {

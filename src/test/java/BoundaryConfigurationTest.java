@@ -71,7 +71,7 @@ public final class BoundaryConfigurationTest {
     }
 
     private static void resetFromFull() {
-        Script fresh = at(2, "Starts anew with an empty memory").play("reset(48, 3) = 64");
+        Script fresh = at(2, "Starts anew with an empty memory").play("reset(48, 3) = 64; save(1) = 0");
         at(2, "Starts anew with an empty memory").busy().play("reset(48, 3) = 48; clearText() = 18; save(1) = 0").sameAs(fresh);
         at(2, "Starts anew with an empty memory").play("""
             reset(16, 1) = 64
@@ -423,6 +423,12 @@ public final class BoundaryConfigurationTest {
         at(11, "the increase of the guarantee").play(five).play("grant(0, 15) = NONE; freeShared() = 0").refused("NO_ROOM", "grant(0, 16)");
         at(11, "(the withdrawal does not take place then)").play(five).refused("NO_ROOM", "grant(2, 8)")
             .play("grantOf(0) = 10; guaranteedCells(0, 0) = 8; grantOf(2) = 0; grant(2, 1) = 0");
+        // A reserve of 4 and a grant of 10: what the withdrawal frees depends on the cells in use.
+        String ten = "reset(32, 4) = 64; setReserve(0, 4) = 0; grant(0, 10) = NONE; grant(1, 1) = NONE; setReserve(3, 17) = 0; freeShared() = 0;";
+        at(11, "after a withdrawal that is necessary: the reserve is more than the cells in use").play(ten).play("arrive(0, 0, 3) = 0").refused("NO_ROOM", "grant(2, 11)").play("grant(2, 10) = 0; freeShared() = 0");
+        at(11, "after a withdrawal that is necessary: the reserve is as much as the cells in use").play(ten).play("arrive(0, 0, 4) = 0").refused("NO_ROOM", "grant(2, 11)").play("grant(2, 10) = 0; sharedCells(0, 0) = 0");
+        at(11, "after a withdrawal that is necessary: the reserve is one less than the cells in use").play(ten).play("arrive(0, 0, 5) = 0").refused("NO_ROOM", "grant(2, 10)").play("grant(2, 9) = 0; sharedCells(0, 0) = 1; freeShared() = 0");
+        at(11, "after a withdrawal that is necessary: all cells of the grant are in use").play(ten).play("arrive(0, 0, 12) = 0; arrive(0, 0, 2) = 1").refused("NO_ROOM", "grant(2, 1)").play("grantOf(0) = 10");
         at(11, "the increase of the guarantee is greater than the free shared cells: the first grant").play("reset(16, 1) = 64").refused("NO_ROOM", "grant(0, 17)", "grant(0, 32)")
             .play("grant(0, 16) = NONE; sharedPool() = 0").refused("NO_ROOM", "grant(0, 17)").play("grant(0, 16) = NONE; withdraw(0) = 16");
     }

@@ -334,7 +334,37 @@ public final class BoundarySendingTest {
             """);
     }
 
+    /** What traffic() says, from the numbers of the document, with arrive() and ticks() on another object. */
+    private static void trafficByHand(int ports, int seed, int n, int load) {
+        String start = "reset(40, " + ports + ") = 64; setPushOut(true) = 0; setReserve(0, 6) = 0;";
+        SharedPacketBuffer x = new SharedPacketBuffer();
+        x.reset(40, ports);
+        x.setPushOut(true);
+        x.setReserve(0, 6);
+        Script hand = at(16, "Each tick is preceded by arrivals").play(start);
+        long s = seed;
+        int lost = 0;
+        for (int tick = 0; tick < n; tick++) {
+            for (int arrival = 0; arrival < load; arrival++) {
+                s = (s * 1103515245L + 12345L) % 2147483648L;
+                long d = s / 65536L;
+                String call = d % ports + ", " + d / 8 % 3 + ", " + (d / 32 % 12 + 1);
+                int packet = x.arrive((int) (d % ports), (int) (d / 8 % 3), (int) (d / 32 % 12 + 1));
+                lost += packet == SharedPacketBuffer.LOST ? 1 : 0;
+                hand.play("arrive(" + call + ") = " + packet);
+            }
+            hand.play("ticks(1) = " + x.ticks(1));
+        }
+        at(16, "Each tick is preceded by arrivals").play(start).play("traffic(" + seed + ", " + n + ", " + load + ") = " + lost).sameAs(hand);
+    }
+
     private static void trafficNumbers() {
+        for (int ports = 1; ports <= 6; ports++) {
+            trafficByHand(ports, 0, 16, 3);
+            trafficByHand(ports, 2147483647, 16, 3);
+            trafficByHand(ports, 1, 16, 1);
+            trafficByHand(ports, 2147483646, 1, 3);
+        }
         // s = 12345, d = 0.
         at(16, "the seed at first, 0 to 2147483647: 0").play("setScheduler(0, false, 0) = 4; traffic(0, 1, 1) = 0; packetAt(0, 0, 0) = 0; fragmentLength(0, 0) = 1");
         // s = 1043980748 after a wrap-around modulo 2147483648, d = 15929: 15929 modulo 4, 1991 modulo 3, 497 modulo 12 + 1.

@@ -18,6 +18,7 @@ public final class BoundaryTextTest {
         runWithoutRoom();
         save();
         restore();
+        restoreEverything();
         restoreOtherSizes();
         checksum();
         A.end("BoundaryTextTest");
@@ -191,12 +192,44 @@ public final class BoundaryTextTest {
         at(54, "0 or 1").busy().refused("BAD_INDEX", "restore(-1)", "restore(2)", "restore(MIN)", "restore(MAX)");
         at(54, "NONE if nothing has been saved in the slot (nothing changes then)").busy().refused("NONE", "restore(0)").play("restore(1) = 0").refused("NONE", "restore(0)").play("save(0) = 0; ticks(1) = 1; restore(0) = 0");
         at(54, "NONE if nothing has been saved in the slot: reset() saves nothing").play("reset(16, 1) = 64").refused("NONE", "restore(0)", "restore(1)");
-        Script plain = at(54, "Makes everything except the text and the slots as it was saved").busy();
-        at(54, "Makes everything except the text and the slots as it was saved").busy().play("save(0) = 1; reset(128, 6) = 48; setPushOut(true) = 0; grant(5, 9) = NONE; arrive(5, 2, 12) = 0; arrive(4, 2, 12) = 1; ticks(3) = 2;"
-            + "restore(0) = 1").sameAs(plain);
         at(54, "Makes everything .. as it was saved: nothing has happened since").busy().play("save(0) = 1").playUnchanged("restore(0) = 1; save(0) = 1");
         at(54, "The slot keeps it").busy().play("restore(1) = 0; time() = 0; flush(0) = 3; ticks(20) = 2; restore(1) = 0; queueLength(0, 0) = 1; queueLength(0, 1) = 1; queueLength(1, 1) = 1; time() = 0; flush(1) = 1; restore(1) = 0;"
             + "queueLength(1, 1) = 1");
+    }
+
+    private static void restoreEverything() {
+        String spoil = "grant(5, 9) = NONE; grant(4, 9) = NONE; setAlpha(0, 0, 0) = 8; setBurst(0, 1, 9, 3) = 0; setScheduler(1, true, 9) = 4; arrive(0, 0, 3) = LOST; arrive(5, 2, 12) = 0; arrive(4, 2, 12) = 1;"
+            + "arrive(0, 1, 7) = 2; arrive(0, 2, 7) = 3; flush(5) = 1; flush(0) = 2; ticks(3) = 1;";
+        Script plain = at(54, "Makes everything except the text and the slots as it was saved").busy().play("save(0) = 1");
+        at(54, "Makes everything except the text and the slots as it was saved").busy().play("save(0) = 1; reset(128, 6) = 48").play(spoil).play("restore(0) = 1").sameAs(plain);
+        // A packet of four fragments, a loss of each kind, and a full memory.
+        String pieces = """
+            reset(16, 3) = 64
+            setReserve(0, 6) = 0
+            setReserve(1, 6) = 0
+            setPushOut(true) = 0
+            setAlpha(2, 0, 64) = 8
+            arrive(0, 0, 1) = 0
+            arrive(1, 0, 1) = 1
+            arrive(0, 0, 1) = 2
+            arrive(1, 0, 1) = 3
+            arrive(0, 0, 1) = 4
+            arrive(1, 0, 1) = 5
+            arrive(0, 0, 1) = 6
+            arrive(2, 0, 4) = 7
+            flush(0) = 4
+            arrive(1, 2, 3) = 8
+            arrive(1, 0, 2) = 9
+            losses(1, 8) = 1
+            arrive(1, 1, 1) = 10
+            arrive(0, 1, 6) = 11
+            fragments(11) = 4
+            freeRuns() = 0
+            arrive(1, 1, 1) = LOST
+            arrive(0, 1, 1) = LOST
+            """;
+        Script whole = at(54, "Makes everything except the text and the slots as it was saved").play(pieces).play("save(0) = 0");
+        at(54, "Makes everything except the text and the slots as it was saved").play(pieces).play("save(0) = 0; reset(128, 6) = 16").play(spoil).play("restore(0) = 0").sameAs(whole);
     }
 
     private static void restoreOtherSizes() {
@@ -218,6 +251,20 @@ public final class BoundaryTextTest {
             0, 0, 0, 0, 0, 0, 0,
             16, 0, 0, 0, 0, 0, 2, 0, 0, 1, 12,
             0, 0, 0, 0, 0, 0, 0);
+        at(55, "time(), admitted(), freeShared(), sharedPool(); for each port ..").busy().checksum(1, 6, 21, 31,
+            0, 2, 3, 0, 0,
+            6, 1, 0, 5, 0, 4, 1, 0, 0,
+            0, 5, 0, 0, 0, 6, 1, 2, 11,
+            0, 3, 0, 0, 0, 0, 1, 3, 16,
+            0, 0, 0, 1, 3,
+            0, 0, 0, 0, 0, 0, 0,
+            0, 0, 2, 0, 1, 0, 1, 5, 7,
+            0, 0, 0, 0, 0, 0, 0,
+            0, 3, 4, 0, 0,
+            5, 1, 0, 0, 0, 0, 1, 4, 19,
+            0, 0, 0, 0, 0, 0, 0,
+            0, 0, 0, 0, 0, 0, 0,
+            9, 2, 25, 23);
         at(55, "the first cell of each of its fragments: two of them, and one free run").play("reset(16, 2) = 64; setReserve(0, 8) = 0; setReserve(1, 8) = 0; arrive(0, 0, 2) = 0; arrive(1, 0, 5) = 1; arrive(0, 0, 6) = 2; flush(0) = 2;"
             + "arrive(1, 2, 3) = 3; arrive(0, 0, 7) = 4; flush(1) = 2").checksum(0, 5, 0, 0,
             1, 0, 0, 0, 8,

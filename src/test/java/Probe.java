@@ -14,6 +14,7 @@ final class Probe {
         List<Long> seen = new ArrayList<>();
         goOn(again(past, more), seen);
         askParameters(again(past, more), seen);
+        useTanks(again(past, more), seen);
         runText(again(past, more), seen);
         return seen;
     }
@@ -78,6 +79,24 @@ final class Probe {
         for (int port = 5; port >= 0; port--) {
             seen.add((long) x.grant(port, 1));
             seen.add((long) x.grantOf(port));
+        }
+    }
+
+    /** Without a threshold each packet is paid by the tank, and its refill shows in the ticks behind it. */
+    private static void useTanks(SharedPacketBuffer x, List<Long> seen) {
+        for (int port = 0; port < 6; port++) {
+            x.flush(port);
+            x.setReserve(port, 0);
+            x.withdraw(port);
+            x.setHeadroom(port, 0);
+            for (int priority = 0; priority < 3; priority++) {
+                x.setAlpha(port, priority, 0);
+                seen.add((long) x.arrive(port, priority, Math.min(12, x.burstTank(port, priority))));
+            }
+        }
+        for (int tick = 0; tick < 6; tick++) {
+            seen.add((long) x.ticks(1));
+            seen.add(x.checksum());
         }
     }
 

@@ -133,6 +133,7 @@ final class Script {
 
     Script sameAs(Script other) {
         answers.holds("two objects answer the same", everything(buffer).equals(everything(other.buffer)));
+        answers.holds("two objects go on in the same way", Probe.of(past, "").equals(Probe.of(other.past, "")));
         return this;
     }
 

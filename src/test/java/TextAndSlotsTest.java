@@ -96,7 +96,7 @@ public final class TextAndSlotsTest {
             + "departed(0) = 1; arrive(0, 1, 1) = 3; setLossless(0, 2, true) = 1; setScheduler(0, true, 3) = 3; setHeadroom(0, 4) = 4;"
             + "setReserve(0, 3) = 3; setBurst(0, 0, 9, 8) = 9; grant(2, 1) = 1; fragmentStart(1, 0) = 9; freeRuns() = 1; runStart(0) = 15;";
         Script plain = new Script(A, "promises 53 and 54, without a slot");
-        plain.play(busy);
+        plain.play(busy).play("save(0) = 1");
         Script saved = new Script(A, "promises 53 and 54");
         saved.play(busy).play("save(0) = 1").play(spoil).play("restore(0) = 1").sameAs(plain);
         plain.play("arrive(0, 1, 1) = 3; grant(2, 1) = 1; ticks(4) = 2");
