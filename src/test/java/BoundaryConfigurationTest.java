@@ -88,8 +88,10 @@ public final class BoundaryConfigurationTest {
             freeShared() = 16
             """);
         at(2, "the next packet gets the number 0").busy().play("reset(16, 1) = 48; admitted() = 0; arrive(0, 0, 1) = 0");
-        Script text = at(2, "The text and the slots stay").write("t1;".repeat(40)).play("save(0) = 0; ticks(2) = 0; save(1) = 2; reset(128, 6) = 64");
-        text.refused("NO_ROOM", "append(59)").play("run() = 0; time() = 40; clearText() = 120; restore(0) = 0; restore(1) = 2; reset(16, 1) = 64");
+        Script text = at(2, "The text and the slots stay").write("t1;".repeat(40)).play("save(0) = 0; ticks(2) = 0; save(1) = 2;"
+            + "reset(128, 6) = 64");
+        text.refused("NO_ROOM", "append(59)").play("run() = 0; time() = 40; clearText() = 120; restore(0) = 0; restore(1) = 2;"
+            + "reset(16, 1) = 64");
         at(2, "The text and the slots stay").play("reset(16, 1) = 64; clearText() = 0").refused("NONE", "restore(0)", "restore(1)");
     }
 
@@ -202,7 +204,8 @@ public final class BoundaryConfigurationTest {
             .play("setHeadroom(0, 14) = 4; freeShared() = 0").refused("NO_ROOM", "setHeadroom(0, 15)", "setHeadroom(1, 1)")
             .play("setHeadroom(0, 14) = 14; setHeadroom(0, 13) = 14; setHeadroom(1, 1) = 0; freeShared() = 0");
         at(4, "NO_ROOM if the increase is greater than the free shared cells").play(ten).play("setHeadroom(1, 10) = 0; freeShared() = 0");
-        at(4, "BAD_INDEX; BAD_VALUE; IN_USE; NO_ROOM").play(ten).refused("BAD_INDEX", "setHeadroom(2, -1)", "setHeadroom(2, 65)", "setHeadroom(-1, 2)")
+        at(4, "BAD_INDEX; BAD_VALUE; IN_USE; NO_ROOM").play(ten).refused("BAD_INDEX", "setHeadroom(2, -1)", "setHeadroom(2, 65)",
+            "setHeadroom(-1, 2)")
             .refused("BAD_VALUE", "setHeadroom(0, -1)", "setHeadroom(0, 65)").refused("IN_USE", "setHeadroom(0, 2)", "setHeadroom(0, 0)");
     }
 
@@ -234,7 +237,8 @@ public final class BoundaryConfigurationTest {
             setBurst(0, 0, 0, 0) = 1
             burstTank(0, 0) = 0
             """);
-        at(6, "the new capacity, 0 to 32").busy().refused("BAD_VALUE", "setBurst(0, 0, -1, 0)", "setBurst(0, 0, 33, 0)", "setBurst(0, 0, MIN, 0)",
+        at(6, "the new capacity, 0 to 32").busy().refused("BAD_VALUE", "setBurst(0, 0, -1, 0)", "setBurst(0, 0, 33, 0)",
+            "setBurst(0, 0, MIN, 0)",
             "setBurst(0, 0, MAX, 0)");
         at(6, "the new refill, 0 to 8").play("""
             setAlpha(3, 2, 0) = 8
@@ -250,7 +254,8 @@ public final class BoundaryConfigurationTest {
             ticks(2) = 0
             burstTank(3, 2) = 0
             """);
-        at(6, "the new refill, 0 to 8").busy().refused("BAD_VALUE", "setBurst(0, 0, 5, -1)", "setBurst(0, 0, 5, 9)", "setBurst(0, 0, 5, MIN)",
+        at(6, "the new refill, 0 to 8").busy().refused("BAD_VALUE", "setBurst(0, 0, 5, -1)", "setBurst(0, 0, 5, 9)",
+            "setBurst(0, 0, 5, MIN)",
             "setBurst(0, 0, 5, MAX)", "setBurst(0, 0, 33, 9)", "setBurst(0, 0, -1, -1)");
         at(6, "the tank is full then (its content is the capacity)").play("""
             setAlpha(1, 1, 0) = 8
@@ -263,7 +268,8 @@ public final class BoundaryConfigurationTest {
             burstTank(1, 1) = 3
             """);
         at(6, "a port; 0 to 2").busy().noSuchQueue(3, "setBurst(#, 5, 5)");
-        at(6, "BAD_INDEX; BAD_VALUE").busy().refused("BAD_INDEX", "setBurst(3, 0, 33, 0)", "setBurst(0, 3, 0, 9)", "setBurst(-1, -1, -1, -1)");
+        at(6, "BAD_INDEX; BAD_VALUE").busy().refused("BAD_INDEX", "setBurst(3, 0, 33, 0)", "setBurst(0, 3, 0, 9)",
+            "setBurst(-1, -1, -1, -1)");
     }
 
     private static void setLossless() {
@@ -275,7 +281,8 @@ public final class BoundaryConfigurationTest {
             headroomCells(0, 2) = 1
             """;
         at(7, "IN_USE if lossless is false and the queue has headroom cells").play(oneCell).refused("IN_USE", "setLossless(0, 2, false)")
-            .playUnchanged("setLossless(0, 2, true) = 1; setLossless(0, 1, false) = 0").play("ticks(1) = 1; headroomCells(0, 2) = 0; setLossless(0, 2, false) = 1");
+            .playUnchanged("setLossless(0, 2, true) = 1; setLossless(0, 1, false) = 0").play("ticks(1) = 1; headroomCells(0, 2) = 0;"
+            + "setLossless(0, 2, false) = 1");
         at(7, "A queue that is not lossless any more is not paused any more, either").play(oneCell).play("""
             flush(0) = 1
             isPaused(0, 2) = 1
@@ -287,8 +294,8 @@ public final class BoundaryConfigurationTest {
             setLossless(0, 2, true) = 0
             isPaused(0, 2) = 0
             """);
-        at(7, "Returns 1 if it was lossless, 0 if not").play("setLossless(3, 0, false) = 0; setLossless(3, 0, true) = 0; setLossless(3, 0, true) = 1;"
-            + "setLossless(3, 1, true) = 0; setLossless(3, 0, false) = 1; setLossless(3, 0, false) = 0");
+        at(7, "Returns 1 if it was lossless, 0 if not").play("setLossless(3, 0, false) = 0; setLossless(3, 0, true) = 0;"
+            + "setLossless(3, 0, true) = 1; setLossless(3, 1, true) = 0; setLossless(3, 0, false) = 1; setLossless(3, 0, false) = 0");
         at(7, "a port; 0 to 2").busy().noSuchQueue(3, "setLossless(#, true)").noSuchQueue(3, "setLossless(#, false)");
     }
 
@@ -308,14 +315,15 @@ public final class BoundaryConfigurationTest {
             ticks(1) = 1
             credit(3) = 5
             """);
-        at(8, "the new rate, 0 to 16").busy().refused("BAD_VALUE", "setScheduler(0, true, -1)", "setScheduler(0, true, 17)", "setScheduler(0, false, MIN)",
+        at(8, "the new rate, 0 to 16").busy().refused("BAD_VALUE", "setScheduler(0, true, -1)", "setScheduler(0, true, 17)",
+            "setScheduler(0, false, MIN)",
             "setScheduler(0, false, MAX)", "setScheduler(1, true, 17)");
         at(8, "a port").busy().noSuchPort(3, "setScheduler(#, false, 5)");
         at(8, "BAD_INDEX; BAD_VALUE").busy().refused("BAD_INDEX", "setScheduler(3, false, 17)", "setScheduler(-1, true, -1)");
         at(8, "Credit, turn, flag and deficits stay as they are").busy()
             .playUnchanged("setScheduler(0, true, 3) = 3; setScheduler(1, false, 4) = 4; setScheduler(2, false, 4) = 4")
-            .play("setScheduler(0, false, 0) = 3; credit(0) = 3; deficit(0, 0) = 4; deficit(0, 1) = 6; setScheduler(0, true, 3) = 0; ticks(1) = 3;"
-            + "credit(0) = 1; deficit(0, 0) = 4; deficit(0, 1) = 0; deficit(0, 2) = 4");
+            .play("setScheduler(0, false, 0) = 3; credit(0) = 3; deficit(0, 0) = 4; deficit(0, 1) = 6; setScheduler(0, true, 3) = 0;"
+            + "ticks(1) = 3; credit(0) = 1; deficit(0, 0) = 4; deficit(0, 1) = 0; deficit(0, 2) = 4");
     }
 
     private static void setQuantum() {
@@ -341,8 +349,8 @@ public final class BoundaryConfigurationTest {
     }
 
     private static void setPushOut() {
-        at(10, "Returns 1 if it was on, 0 if not").play("setPushOut(false) = 0; setPushOut(true) = 0; setPushOut(true) = 1; setPushOut(false) = 1;"
-            + "setPushOut(false) = 0");
+        at(10, "Returns 1 if it was on, 0 if not").play("setPushOut(false) = 0; setPushOut(true) = 0; setPushOut(true) = 1;"
+            + "setPushOut(false) = 1; setPushOut(false) = 0");
     }
 
     private static void grantRange() {
@@ -358,7 +366,8 @@ public final class BoundaryConfigurationTest {
             sharedPool() = 32
             """);
         at(11, "the cells of the grant, 1 to 32").busy()
-            .refused("BAD_VALUE", "grant(0, 0)", "grant(0, 33)", "grant(1, 0)", "grant(1, 33)", "grant(2, -1)", "grant(2, MIN)", "grant(2, MAX)");
+            .refused("BAD_VALUE", "grant(0, 0)", "grant(0, 33)", "grant(1, 0)", "grant(1, 33)", "grant(2, -1)", "grant(2, MIN)",
+            "grant(2, MAX)");
         at(11, "a port").busy().noSuchPort(3, "grant(#, 1)");
         at(11, "BAD_INDEX; BAD_VALUE; NO_ROOM").busy().refused("BAD_INDEX", "grant(3, 0)", "grant(3, 33)", "grant(-1, 0)", "grant(3, 32)")
             .refused("BAD_VALUE", "grant(1, 33)").refused("NO_ROOM", "grant(1, 32)");
@@ -417,19 +426,28 @@ public final class BoundaryConfigurationTest {
             freeShared() = 5
             """;
         at(11, "NO_ROOM if, after a withdrawal that is necessary, the increase of the guarantee is greater than the free shared cells")
-            .play(five).refused("NO_ROOM", "grant(2, 8)", "grant(2, 32)", "grant(3, 8)").play("grant(2, 7) = 0; freeShared() = 0; sharedCells(0, 0) = 8");
-        at(11, "the increase of the guarantee").play(five).refused("NO_ROOM", "grant(0, 16)", "grant(1, 8)").play("grant(1, 7) = NONE; freeShared() = 0")
-            .refused("NO_ROOM", "grant(1, 8)", "grant(0, 11)").play("grant(0, 10) = NONE; grant(0, 9) = NONE; grant(1, 8) = NONE; freeShared() = 0");
+            .play(five).refused("NO_ROOM", "grant(2, 8)", "grant(2, 32)", "grant(3, 8)").play("grant(2, 7) = 0; freeShared() = 0;"
+            + "sharedCells(0, 0) = 8");
+        at(11, "the increase of the guarantee").play(five).refused("NO_ROOM", "grant(0, 16)", "grant(1, 8)")
+            .play("grant(1, 7) = NONE; freeShared() = 0")
+            .refused("NO_ROOM", "grant(1, 8)", "grant(0, 11)").play("grant(0, 10) = NONE; grant(0, 9) = NONE; grant(1, 8) = NONE;"
+            + "freeShared() = 0");
         at(11, "the increase of the guarantee").play(five).play("grant(0, 15) = NONE; freeShared() = 0").refused("NO_ROOM", "grant(0, 16)");
         at(11, "(the withdrawal does not take place then)").play(five).refused("NO_ROOM", "grant(2, 8)")
             .play("grantOf(0) = 10; guaranteedCells(0, 0) = 8; grantOf(2) = 0; grant(2, 1) = 0");
         // A reserve of 4 and a grant of 10: what the withdrawal frees depends on the cells in use.
-        String ten = "reset(32, 4) = 64; setReserve(0, 4) = 0; grant(0, 10) = NONE; grant(1, 1) = NONE; setReserve(3, 17) = 0; freeShared() = 0;";
-        at(11, "after a withdrawal that is necessary: the reserve is more than the cells in use").play(ten).play("arrive(0, 0, 3) = 0").refused("NO_ROOM", "grant(2, 11)").play("grant(2, 10) = 0; freeShared() = 0");
-        at(11, "after a withdrawal that is necessary: the reserve is as much as the cells in use").play(ten).play("arrive(0, 0, 4) = 0").refused("NO_ROOM", "grant(2, 11)").play("grant(2, 10) = 0; sharedCells(0, 0) = 0");
-        at(11, "after a withdrawal that is necessary: the reserve is one less than the cells in use").play(ten).play("arrive(0, 0, 5) = 0").refused("NO_ROOM", "grant(2, 10)").play("grant(2, 9) = 0; sharedCells(0, 0) = 1; freeShared() = 0");
-        at(11, "after a withdrawal that is necessary: all cells of the grant are in use").play(ten).play("arrive(0, 0, 12) = 0; arrive(0, 0, 2) = 1").refused("NO_ROOM", "grant(2, 1)").play("grantOf(0) = 10");
-        at(11, "the increase of the guarantee is greater than the free shared cells: the first grant").play("reset(16, 1) = 64").refused("NO_ROOM", "grant(0, 17)", "grant(0, 32)")
+        String ten = "reset(32, 4) = 64; setReserve(0, 4) = 0; grant(0, 10) = NONE; grant(1, 1) = NONE; setReserve(3, 17) = 0;"
+            + "freeShared() = 0;";
+        at(11, "after a withdrawal that is necessary: the reserve is more than the cells in use").play(ten).play("arrive(0, 0, 3) = 0")
+            .refused("NO_ROOM", "grant(2, 11)").play("grant(2, 10) = 0; freeShared() = 0");
+        at(11, "after a withdrawal that is necessary: the reserve is as much as the cells in use").play(ten).play("arrive(0, 0, 4) = 0")
+            .refused("NO_ROOM", "grant(2, 11)").play("grant(2, 10) = 0; sharedCells(0, 0) = 0");
+        at(11, "after a withdrawal that is necessary: the reserve is one less than the cells in use").play(ten).play("arrive(0, 0, 5) = 0")
+            .refused("NO_ROOM", "grant(2, 10)").play("grant(2, 9) = 0; sharedCells(0, 0) = 1; freeShared() = 0");
+        at(11, "after a withdrawal that is necessary: all cells of the grant are in use").play(ten)
+            .play("arrive(0, 0, 12) = 0; arrive(0, 0, 2) = 1").refused("NO_ROOM", "grant(2, 1)").play("grantOf(0) = 10");
+        at(11, "the increase of the guarantee is greater than the free shared cells: the first grant").play("reset(16, 1) = 64")
+            .refused("NO_ROOM", "grant(0, 17)", "grant(0, 32)")
             .play("grant(0, 16) = NONE; sharedPool() = 0").refused("NO_ROOM", "grant(0, 17)").play("grant(0, 16) = NONE; withdraw(0) = 16");
     }
 
@@ -482,10 +500,12 @@ public final class BoundaryConfigurationTest {
     }
 
     private static void withdraw() {
-        at(12, "Returns the cells of the grant").play("grant(0, 1) = NONE; grant(3, 32) = NONE; withdraw(3) = 32; withdraw(0) = 1; sharedPool() = 64");
+        at(12, "Returns the cells of the grant").play("grant(0, 1) = NONE; grant(3, 32) = NONE; withdraw(3) = 32; withdraw(0) = 1;"
+            + "sharedPool() = 64");
         at(12, "NONE if the port has no grant (nothing changes then)").busy().refused("NONE", "withdraw(1)").play("withdraw(0) = 2")
             .refused("NONE", "withdraw(0)", "withdraw(1)").play("withdraw(2) = 3").refused("NONE", "withdraw(2)");
-        at(12, "NONE if the port has no grant: it has lost it to a third port").play("grant(0, 1) = NONE; grant(1, 1) = NONE; grant(2, 1) = 0")
+        at(12, "NONE if the port has no grant: it has lost it to a third port").play("grant(0, 1) = NONE; grant(1, 1) = NONE;"
+            + "grant(2, 1) = 0")
             .refused("NONE", "withdraw(0)", "withdraw(3)");
         at(12, "a port").busy().noSuchPort(3, "withdraw(#)");
         at(12, "When the guarantee of a port becomes less than the guaranteed cells of its queues").play("""
